@@ -1,0 +1,95 @@
+/** Texts that fill the rows inside the object as far as any text can, against the model. */
+public final class LimitsTest {
+    private static void compare(String text, int status) throws Model.Wrong {
+        Check.due("length of " + text, text.length() <= 250 ? 1 : 0, 1);
+        Model m = new Model(text);
+        ListDesk d = new ListDesk();
+        Check.right(d, text);
+        long spent = 0;
+        for (int i = 0; i < 60 && d.status() == 2; i++) {
+            spent += 1999;
+            d.run(1999);
+        }
+        m.walk(spent);
+        Check.due("status of " + text, d.status(), status);
+        Check.due("status of " + text, d.status(), m.status);
+        Check.due("place of " + text, d.place(), m.place);
+        Check.looks(text, d, m.begun, m.objects, m.waiting, m.put.size());
+        if (m.status == 1) {
+            Check.due("kind of " + text, d.kind(1), Model.kindOf(m.value));
+            Check.due("number of " + text, d.number(1), m.value instanceof Integer ? (Integer) m.value : 0);
+        }
+    }
+
+    private static void manyOrders() throws Model.Wrong {
+        compare("((lambda(f)" + "(f)f".repeat(56) + " 5)(lambda()1))", 1);
+        compare("((lambda(f)" + "(f)".repeat(75) + "5)(lambda()1))", 1);
+        compare("1" + " 1".repeat(124), 1);
+        compare("(lambda()1)".repeat(22) + "(not 1)", 1);
+        compare("(let((a 1))" + "(set! a 3)".repeat(23) + "a)", 1);
+        compare("(if 0 1 2)".repeat(25), 1);
+        compare("(letrec((a(lambda()5)))1)".repeat(9) + "(let((a 7))a)", 1);
+    }
+
+    private static void manyValues() throws Model.Wrong {
+        compare("(letrec((f(lambda(a b c d)" + "(f a b c".repeat(17) + "(f a b c d)" + ")".repeat(17) + ")))(f 1 2 3 4))", 4);
+        String lets = "(let((a 1)(b 2)(c 3)(g 4))".repeat(6);
+        compare("(letrec((f(lambda(n)" + lets + "(+ n(f(- n 1)))" + ")".repeat(6) + ")))(f 1))", 4);
+        compare("(letrec((f(lambda(n)" + lets + "(if n(+ n(f(- n 1)))g)" + ")".repeat(6) + ")))(f 50))", 1);
+        String adds = "(+ n".repeat(15);
+        compare("(letrec((f(lambda(n)(if(= n 0)1" + adds + "(f(- n 1))" + ")".repeat(15) + "))))(f 59))", 1);
+    }
+
+    private static void manyTaken() throws Model.Wrong {
+        StringBuilder s = new StringBuilder();
+        StringBuilder uses = new StringBuilder();
+        char v = 'a';
+        for (int i = 0; i < 5; i++) {
+            s.append("(let(");
+            for (int j = 0; j < 4; j++) {
+                s.append('(').append(v).append(' ').append(i + j).append(')');
+                uses.append(v).append(' ');
+                v++;
+            }
+            s.append(')');
+        }
+        s.append("(letrec((z(lambda(y)(lambda()").append(uses).append("1)(z 1)))) (z 0))").append(")".repeat(5));
+        compare(s.toString(), 5);
+        String last = s.toString().replace("1)(z 1))))", "t)))) ").replace("(z 0)", "((z 0))");
+        compare(last, 1);
+    }
+
+    private static void manyLevels() throws Model.Wrong {
+        compare("(let((a 3)(b 4))" + "(".repeat(9) + "(lambda()".repeat(9) + "(- a b)" + ")".repeat(18) + ")", 1);
+        compare("(let((a 3))(set! a(not a))" + "((lambda(b)".repeat(8) + "(set! a(+ b a))" + ")2)".repeat(8) + "a)", 1);
+    }
+
+    private static void manyFrames() throws Model.Wrong {
+        compare("(letrec((f(lambda(n l)(if n(f(- n 1)(cons l n))l))))(f 1900 nil))", 1);
+        compare("(letrec((f(lambda(n)(if(< n 5000)(f(+ n 1))n))))(f 0))", 1);
+    }
+
+    private static void compareAll() {
+        try {
+            manyOrders();
+            manyValues();
+            manyTaken();
+            manyLevels();
+            manyFrames();
+        } catch (Model.Wrong e) {
+            Check.due("a text of this test is wrong", e.at, -1);
+        }
+    }
+
+    public static void main(String[] args) throws InterruptedException {
+        // The model lets calls at the end nest, so it needs a deep stack of Java's own.
+        Thread t = new Thread(null, LimitsTest::compareAll, "deep", 1L << 30);
+        t.setUncaughtExceptionHandler((thread, e) -> {
+            e.printStackTrace();
+            Check.due("an exception in the test", 1, 0);
+        });
+        t.start();
+        t.join();
+        Check.end("LimitsTest");
+    }
+}

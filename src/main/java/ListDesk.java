@@ -11,8 +11,8 @@ public final class ListDesk {
     private static final int OUTPUT_KEPT = 200;
     private static final int LETTERS = 26;
 
-    /* The shortest lambda, (lambda()1), has eleven bytes. */
-    private static final int LAMBDA_LIMIT = TAPE_LIMIT / 11 + 1;
+    /* A lambda has nine bytes, (lambda(), before there can be another one. */
+    private static final int LAMBDA_LIMIT = TAPE_LIMIT / 9 + 1;
     /* No byte of a text brings more than two orders; the program's end brings one more. */
     private static final int ORDER_LIMIT = 2 * TAPE_LIMIT + 2;
     /* A list has at most five values on the stack at once, and lists are at most 20 deep. */
@@ -241,7 +241,7 @@ public final class ListDesk {
         }
 
         int byteAt(int i) {
-            return i < length ? Rows.get(bytes, i) : END;
+            return i >= 0 && i < length && i < bytes.length ? bytes[i] : END;
         }
 
         int skipBlanks() {
@@ -552,7 +552,7 @@ public final class ListDesk {
             return Rows.get(entry, function);
         }
 
-        int after(int function) {
+        int afterOf(int function) {
             return Rows.get(after, function);
         }
 
@@ -819,6 +819,7 @@ public final class ListDesk {
             value(Code.LETREC, 0, at);
             int lambdaAt = tape.skipBlanks();
             int lambdaCode = code.size;
+            /* What is wrong inside is told first: whether it is a lambda is looked at when it is read. */
             expression(depth);
             if (code.orderAt(lambdaCode) != Code.LAMBDA) {
                 refuse(lambdaAt);
@@ -982,7 +983,6 @@ public final class ListDesk {
         private int next;
         private int waiting;
 
-        private int fuel;
         private int begun;
         private int status;
         private int faultAt;
@@ -1016,15 +1016,16 @@ public final class ListDesk {
             status = GOES_ON;
         }
 
-        int goOn(int newFuel) {
-            fuel = newFuel;
+        /** Free orders go on when the fuel is used up: only the next expression is not begun. */
+        int goOn(int fuel) {
+            int left = fuel;
             for (int n = 0; n < ORDERS_A_RUN && status == GOES_ON; n++) {
                 int order = code.orderAt(next);
                 if (order <= Code.LAST_THAT_COSTS) {
-                    if (fuel == 0) {
+                    if (left == 0) {
                         return status;
                     }
-                    fuel--;
+                    left--;
                     begun++;
                 }
                 int operand = Rows.get(code.operand, next);
@@ -1152,7 +1153,7 @@ public final class ListDesk {
                 heap.take(find(functions.sourceOf(lambda, i)));
             }
             push(function);
-            next = functions.after(lambda);
+            next = functions.afterOf(lambda);
         }
 
         private void bind(int variable, int at) {
@@ -1214,10 +1215,9 @@ public final class ListDesk {
 
         private void primitiveOfOne(int order, int at) {
             long value = pop();
-            int tag = Value.tag(value);
             switch (order) {
                 case Code.IS_PAIR:
-                    push(Value.truth(tag == Value.PAIR));
+                    push(Value.truth(Value.tag(value) == Value.PAIR));
                     break;
                 case Code.IS_NULL:
                     push(Value.truth(value == Value.NIL));

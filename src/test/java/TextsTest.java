@@ -122,6 +122,9 @@ public final class TextsTest {
         wrong(11, "(letrec((f (car f)))f)");
         wrong(11, "(letrec((f ((lambda()1))))f)");
         wrong(11, "(letrec((f (let((a 1))(lambda()a))))f)");
+        // It is looked at when it is read, so what is wrong inside it is told first.
+        wrong(16, "(letrec((f (car x)))f)");
+        wrong(18, "(letrec((f (+ f 1 2)))f)");
         wrong(22, "(letrec((f(lambda()1))(g(lambda()1)))1)");
         wrong(21, "(letrec((f(lambda()1)1))1)");
         wrong(8, "(letrec()1)");

@@ -815,7 +815,6 @@ public final class ListDesk {
             newLetter(from);
             int variable = names.count;
             names.bindPending(from, height, functions.level);
-            names.setBoxed(variable, true);
             value(Code.LETREC, 0, at);
             int lambdaAt = tape.skipBlanks();
             int lambdaCode = code.size;

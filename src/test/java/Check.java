@@ -8,16 +8,41 @@ final class Check {
         int answer();
     }
 
+    private static final long LIMIT_MILLIS = 300000;
+
     private static int wrong;
+    private static String sentence = "";
+
+    /* A call that never ends is a failure too. */
+    static {
+        Thread watch = new Thread(Check::endLate);
+        watch.setDaemon(true);
+        watch.start();
+    }
 
     private Check() {
+    }
+
+    private static void endLate() {
+        try {
+            Thread.sleep(LIMIT_MILLIS);
+        } catch (InterruptedException e) {
+            return;
+        }
+        System.out.println(sentence + "the test does not end");
+        Runtime.getRuntime().halt(1);
+    }
+
+    /** The document's sentence that the answers from here on are due by. */
+    static void sentence(String words) {
+        sentence = "\"" + words + "\": ";
     }
 
     static void due(String what, long got, long want) {
         if (got != want) {
             wrong++;
             if (wrong <= 50) {
-                System.out.println(what + ": " + got + ", due is " + want);
+                System.out.println(sentence + what + ": " + got + ", due is " + want);
             }
         }
     }
@@ -38,14 +63,18 @@ final class Check {
         due(what + " throws (1 IAE, 2 ISE, 3 IOOBE)", thrown(call), want);
     }
 
+    static long packed(String part) {
+        long bytes = 0;
+        for (int j = 0; j < part.length(); j++) {
+            bytes = bytes << 8 | part.charAt(j);
+        }
+        return bytes;
+    }
+
     static void feed(ListDesk d, String text) {
         for (int i = 0; i < text.length(); i += 8) {
             String part = text.substring(i, Math.min(i + 8, text.length()));
-            long bytes = 0;
-            for (int j = 0; j < part.length(); j++) {
-                bytes = bytes << 8 | part.charAt(j);
-            }
-            due("feed " + part, d.feed(bytes, part.length()), i + part.length());
+            due("feed " + part, d.feed(packed(part), part.length()), i + part.length());
         }
     }
 
@@ -79,6 +108,37 @@ final class Check {
         }
         due("status behind " + text, d.status(), status);
         return d;
+    }
+
+    static void value(String text, int want) {
+        ListDesk d = kind(text, 0);
+        if (d.status() == 1) {
+            due("value of " + text, d.number(1), want);
+        }
+    }
+
+    static ListDesk kind(String text, int want) {
+        ListDesk d = ran(text, 1);
+        if (d.status() == 1) {
+            due("kind of " + text, d.kind(1), want);
+        }
+        return d;
+    }
+
+    static void objects(String text, int want) {
+        due("objects of " + text, ran(text, 1).look(1), want);
+    }
+
+    static void puts(String text, int... want) {
+        ListDesk d = ran(text, 1);
+        due("put out by " + text, d.look(3), want.length);
+        for (int k = 0; k < want.length && k < d.look(3); k++) {
+            due("out " + k + " of " + text, d.out(k), want[k]);
+        }
+    }
+
+    static void stops(String text, int status, int place) {
+        due("place of " + text, ran(text, status).place(), place);
     }
 
     static void looks(String what, ListDesk d, int begun, int objects, int waiting, int put) {

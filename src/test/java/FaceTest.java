@@ -11,17 +11,30 @@ public final class FaceTest {
         return !Modifier.isPrivate(modifiers);
     }
 
+    private static String written(Method m) {
+        StringBuilder s = new StringBuilder(m.getReturnType().getName()).append('(');
+        for (Class<?> p : m.getParameterTypes()) {
+            s.append(s.charAt(s.length() - 1) == '(' ? "" : ",").append(p.getName());
+        }
+        s.append(')');
+        for (Class<?> e : m.getExceptionTypes()) {
+            s.append(' ').append(e.getSimpleName());
+        }
+        return s.toString();
+    }
+
     public static void main(String[] args) {
         Map<String, String> face = new TreeMap<>();
-        face.put("feed", "int(long,int)");
-        face.put("load", "void()");
+        String both = " IllegalArgumentException IllegalStateException";
+        face.put("feed", "int(long,int)" + both);
+        face.put("load", "void() IllegalArgumentException");
         face.put("place", "int()");
-        face.put("run", "int(int)");
+        face.put("run", "int(int)" + both);
         face.put("status", "int()");
-        face.put("look", "int(int)");
-        face.put("out", "int(int)");
-        face.put("kind", "int(int)");
-        face.put("number", "int(int)");
+        face.put("look", "int(int) IllegalArgumentException");
+        face.put("out", "int(int) IndexOutOfBoundsException");
+        face.put("kind", "int(int)" + both);
+        face.put("number", "int(int)" + both);
         Class<?> c = ListDesk.class;
         Check.due("public and final", c.getModifiers(), Modifier.PUBLIC | Modifier.FINAL);
         for (Method m : c.getDeclaredMethods()) {
@@ -32,12 +45,8 @@ public final class FaceTest {
                 Check.due("a private method named " + m.getName(), face.containsKey(m.getName()) ? 1 : 0, 0);
                 continue;
             }
-            StringBuilder s = new StringBuilder(m.getReturnType().getName()).append('(');
-            for (Class<?> p : m.getParameterTypes()) {
-                s.append(s.charAt(s.length() - 1) == '(' ? "" : ",").append(p.getName());
-            }
             String due = face.remove(m.getName());
-            Check.due("method " + m, s.append(')').toString().equals(due) ? 1 : 0, 1);
+            Check.due("method " + m, written(m).equals(due) ? 1 : 0, 1);
             Check.due("public " + m, m.getModifiers(), Modifier.PUBLIC);
         }
         Check.due("methods that are missing", face.size(), 0);

@@ -57,6 +57,7 @@ public final class LimitsTest {
         compare(s.toString(), 5);
         String last = s.toString().replace("1)(z 1))))", "t)))) ").replace("(z 0)", "((z 0))");
         compare(last, 1);
+        compare("(letrec((z(lambda(a b c d)(let((g(lambda()(+ a(+ b(+ c d))))))(if(< a 1990)(z(+ a 1)b c d)(g))))))(z 0 1 2 3))", 1);
     }
 
     private static void manyLevels() throws Model.Wrong {

@@ -147,12 +147,17 @@ public final class ModelTest {
         Check.due(what + ": status", d.status(), m.status);
         Check.due(what + ": place", d.place(), m.place);
         Check.looks(what, d, m.begun, m.objects, m.waiting, m.put.size());
+    }
+
+    private static void compareEnd(String what, ListDesk d, Model m) {
         int n = m.put.size();
-        for (int k = Math.max(0, n - 200); k < n; k++) {
-            Check.due(what + ": out " + k, d.out(k), m.put.get(k));
+        int oldest = Math.max(0, n - 200);
+        for (int i = 0; i < 20 && oldest + i < n; i++) {
+            Check.due(what + ": out", d.out(n - 1 - i), m.put.get(n - 1 - i));
+            Check.due(what + ": out", d.out(oldest + i), m.put.get(oldest + i));
         }
         Check.throwing(what + ": out " + n, () -> d.out(n), Check.IOOBE);
-        Check.throwing(what + ": out below", () -> d.out(n - 201), Check.IOOBE);
+        Check.throwing(what + ": out below", () -> d.out(oldest - 1), Check.IOOBE);
         for (int way = 1; way < 20 && m.status == 1; way++) {
             Object part = m.part(way);
             Check.due(what + ": kind " + way, d.kind(way), Model.kindOf(part));
@@ -162,7 +167,8 @@ public final class ModelTest {
 
     private static final int[] ended = new int[6];
 
-    private static void compare(ListDesk d, String text, boolean longRun) {
+    /** At most 33 calls to load, 7 for the state, 12 times 8 to run, 80 at the end: 216 in all. */
+    private static void compare(ListDesk d, String text, int mostFuel) {
         Model m;
         Check.feed(d, text);
         try {
@@ -176,25 +182,26 @@ public final class ModelTest {
         Check.due("load " + text, Check.load(d), 0);
         m.walk(0);
         compareState(text, d, m);
-        int most = longRun ? 2000 : 1 + random.nextInt(30);
         long spent = 0;
-        for (int i = 0; i < 25 && d.status() == 2; i++) {
-            int fuel = 1 + random.nextInt(most);
+        for (int i = 0; i < 12 && d.status() == 2; i++) {
+            int fuel = 1 + random.nextInt(mostFuel);
             spent += fuel;
             m.walk(spent);
             Check.due("run " + text, d.run(fuel), m.status);
             compareState(text + " with " + spent, d, m);
         }
+        compareEnd(text + " with " + spent, d, m);
         ended[m.status]++;
     }
 
     private static void compareAll() {
         random = new Random(Long.getLong("seed", 1));
-        ListDesk d = new ListDesk();
         for (int i = 0; i < PROGRAMS; i++) {
             String text = program();
-            compare(d, text, i % 2 == 0);
-            compare(d, damaged(text), true);
+            // Two programs are what an object's 512 calls are enough for.
+            ListDesk d = new ListDesk();
+            compare(d, text, i % 2 == 0 ? 2000 : 1 + random.nextInt(30));
+            compare(d, damaged(text), 2000);
         }
         StringBuilder s = new StringBuilder("wrong, through, cut, status 3, 4, 5:");
         for (int n : ended) {

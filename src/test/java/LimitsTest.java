@@ -1,9 +1,12 @@
 /** Texts that fill the rows inside the object as far as any text can, against the model. */
 public final class LimitsTest {
     private static void compare(String text, int status) throws Model.Wrong {
+        compare(new ListDesk(), text, status);
+    }
+
+    private static void compare(ListDesk d, String text, int status) throws Model.Wrong {
         Check.due("length of " + text, text.length() <= 250 ? 1 : 0, 1);
         Model m = new Model(text);
-        ListDesk d = new ListDesk();
         Check.right(d, text);
         long spent = 0;
         for (int i = 0; i < 60 && d.status() == 2; i++) {
@@ -15,6 +18,9 @@ public final class LimitsTest {
         Check.due("status of " + text, d.status(), m.status);
         Check.due("place of " + text, d.place(), m.place);
         Check.looks(text, d, m.begun, m.objects, m.waiting, m.put.size());
+        for (int k = Math.max(0, m.put.size() - 50); k < m.put.size(); k++) {
+            Check.due("out " + k + " of " + text, d.out(k), m.put.get(k));
+        }
         if (m.status == 1) {
             Check.due("kind of " + text, d.kind(1), Model.kindOf(m.value));
             Check.due("number of " + text, d.number(1), m.value instanceof Integer ? (Integer) m.value : 0);
@@ -57,7 +63,13 @@ public final class LimitsTest {
         compare(s.toString(), 5);
         String last = s.toString().replace("1)(z 1))))", "t)))) ").replace("(z 0)", "((z 0))");
         compare(last, 1);
-        compare("(letrec((z(lambda(a b c d)(let((g(lambda()(+ a(+ b(+ c d))))))(if(< a 1990)(z(+ a 1)b c d)(g))))))(z 0 1 2 3))", 1);
+        String late = "(letrec((z(lambda(a b c d)(let((g(lambda()(+ a(+ b(+ c d))))))(if(< a 1990)(z(+ a 1)b c d)(g))))))(z 0 1 2 3))";
+        compare(late, 1);
+        ListDesk again = new ListDesk();
+        compare(again, s.toString(), 5);
+        compare(again, s.toString(), 5);
+        compare(again, late, 1);
+        compare("(let((a 1)(b 2))((lambda()" + "(out a)".repeat(28) + "((lambda()b)))))", 1);
     }
 
     private static void manyLevels() throws Model.Wrong {

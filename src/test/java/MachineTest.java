@@ -186,6 +186,10 @@ public final class MachineTest {
         Check.objects("(let((a 1))(let((f(lambda()(set! a 2))))3))", 2);
         Check.objects("((lambda(a b c d)(set! a 1)(set! c 1)(set! d 1))1 2 3 4)", 4);
         Check.objects("(let((f(lambda(a)(set! a 1))))(f 1)(f 1)(f 1))", 4);
+        Check.objects("(let((a 1))(set! a 2))(let((a 1))a)", 1);
+        Check.objects("(let((a 1))(let((a 2))(set! a 3)))", 1);
+        Check.objects("(let((a 1))(let((a(set! a 2)))a))", 1);
+        Check.objects("((lambda(a)(let((b 1))(set! b a)))1)", 2);
         Check.sentence("or that letrec binds, each time they are bound");
         Check.objects("(letrec((f(lambda()1)))1)", 2);
         Check.objects("(letrec((f(lambda()1)))(set! f 1))", 2);

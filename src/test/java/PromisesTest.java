@@ -187,7 +187,11 @@ public final class PromisesTest {
         Check.wrongAt(d, "(lambda(a)(lambda(b)(lambda(c)(let((d a)(e b)(x", 47);
         Check.wrongAt(d, "(lambda()a)", 9);
         Check.wrongAt(d, "(lambda()x)", 9);
-        anewBehind(60, "(let((a 1)(b 2)(c 3)(d", 22);
+        Check.right(d, "(let((a 1))((lambda()a)))");
+        Check.right(d, "(+ 5(let((a 1))((lambda()a))))");
+        d.run(2000);
+        Check.due("a variable of the same name", d.number(1), 6);
+        anewBehind(66, "(let((a 1)(b 2)(c 3)(d", 22);
         anewBehind(40, "(lambda(a b c d)(lambda(e f g h)(e x", 35);
         anewBehind(40, "(lambda(a b c d)(lambda(e f g h)(e)))", -1);
         anewBehind(40, "(letrec((f(lambda()(set! f(f)))))1)", -1);

@@ -148,6 +148,17 @@ final class Check {
         due(what + ": put out", d.look(3), put);
     }
 
+    /** The model lets calls at the end nest, so it needs a deep stack of Java's own. */
+    static void deep(Runnable test) throws InterruptedException {
+        Thread t = new Thread(null, test, "deep", 1L << 30);
+        t.setUncaughtExceptionHandler((thread, e) -> {
+            e.printStackTrace();
+            due("an exception in the test", 1, 0);
+        });
+        t.start();
+        t.join();
+    }
+
     static void end(String name) {
         System.out.println(name + ": " + (wrong == 0 ? "all answers are as due" : wrong + " wrong"));
         System.exit(wrong == 0 ? 0 : 1);

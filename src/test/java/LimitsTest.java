@@ -95,14 +95,7 @@ public final class LimitsTest {
     }
 
     public static void main(String[] args) throws InterruptedException {
-        // The model lets calls at the end nest, so it needs a deep stack of Java's own.
-        Thread t = new Thread(null, LimitsTest::compareAll, "deep", 1L << 30);
-        t.setUncaughtExceptionHandler((thread, e) -> {
-            e.printStackTrace();
-            Check.due("an exception in the test", 1, 0);
-        });
-        t.start();
-        t.join();
+        Check.deep(LimitsTest::compareAll);
         Check.end("LimitsTest");
     }
 }

@@ -73,6 +73,7 @@ public final class LimitsTest {
     }
 
     private static void manyLevels() throws Model.Wrong {
+        compare("(letrec((g(lambda(x n)(if n(g(x)(- n 1))x))))(g " + "(lambda()".repeat(18) + "g" + ")".repeat(18) + " 18))", 1);
         compare("(let((a 3)(b 4))" + "(".repeat(9) + "(lambda()".repeat(9) + "(- a b)" + ")".repeat(18) + ")", 1);
         compare("(let((a 3))(set! a(not a))" + "((lambda(b)".repeat(8) + "(set! a(+ b a))" + ")2)".repeat(8) + "a)", 1);
     }
